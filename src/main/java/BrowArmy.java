@@ -41,6 +41,7 @@ public final class BrowArmy {
     private static final int MOST_SEEDS = 30;
     private static final int MOST_SEEN_PAIRS = 6;
     private static final int OTHER_LIVES = -1000;
+    private static final int GREATEST_NUMBER = 999;
 
     private static final int CANNOT_COME = 1;
     private static final int BAD_NUMBER = 2;
@@ -470,7 +471,10 @@ public final class BrowArmy {
 
     public int sentence() {
         reader.begin(MOST_SENTENCE_BYTES);
-        newSentence.readFrom(reader, army);
+        newSentence.forget();
+        if (newSentence.readCondition(reader, army, 1) && reader.kind != END) {
+            reader.refuse(CANNOT_COME);
+        }
         tape.length = 0;
         fault = reader.fault;
         if (fault != 0) {
@@ -816,15 +820,18 @@ public final class BrowArmy {
         }
 
         /** The number that must stand here, or NONE with a fault. */
-        int takeNumber(int least, int greatest) {
+        int numberHere(int least, int greatest) {
             if (kind != NUMBER) {
                 return refuseNumber(CANNOT_COME);
             }
-            if (number < least || number > greatest) {
-                return refuseNumber(BAD_NUMBER);
+            return number < least || number > greatest ? refuseNumber(BAD_NUMBER) : number;
+        }
+
+        int takeNumber(int least, int greatest) {
+            int taken = numberHere(least, greatest);
+            if (taken != NONE) {
+                advance();
             }
-            int taken = number;
-            advance();
             return taken;
         }
 
@@ -850,24 +857,20 @@ public final class BrowArmy {
             return m == NONE ? refuseNumber(BAD_NAME) : m;
         }
 
-        int takeMan(Army army) {
-            int taken = manHere(army);
-            if (taken != NONE) {
-                advance();
-            }
-            return taken;
-        }
-
         /** The order that must be named here, or NONE with a fault. */
-        int takeOrder(Army army) {
+        int orderHere(Army army) {
             if (kind != NAME) {
                 return refuseNumber(CANNOT_COME);
             }
-            int taken = army.orderNamed(name);
-            if (taken == NONE) {
-                return refuseNumber(BAD_NAME);
+            int o = army.orderNamed(name);
+            return o == NONE ? refuseNumber(BAD_NAME) : o;
+        }
+
+        int takeOrder(Army army) {
+            int taken = orderHere(army);
+            if (taken != NONE) {
+                advance();
             }
-            advance();
             return taken;
         }
     }
@@ -1600,15 +1603,8 @@ public final class BrowArmy {
 
         // ---- the text
 
-        boolean readFrom(Reader reader, Army army) {
-            forget();
-            if (!readCondition(reader, army, 1)) {
-                return false;
-            }
-            return reader.kind == END || reader.refuse(CANNOT_COME);
-        }
-
-        private boolean readCondition(Reader reader, Army army, int depth) {
+        /** Depth is how many ones this one's ones stand in, and 1: the outermost are 1 deep. */
+        boolean readCondition(Reader reader, Army army, int depth) {
             if (!readAll(reader, army, depth)) {
                 return false;
             }
@@ -1668,19 +1664,22 @@ public final class BrowArmy {
             int told = 0;
             int compared = 0;
             if (word.sort == OF_MAN) {
-                told = reader.takeMan(army);
+                told = reader.manHere(army);
             } else if (word.sort == OF_ORDER) {
-                told = reader.takeOrder(army);
+                told = reader.orderHere(army);
             } else if (word.sort == MEASURE) {
                 compared = reader.sign;
                 if (compared != '<' && compared != '=' && compared != '>') {
                     return reader.refuse(CANNOT_COME);
                 }
                 reader.advance();
-                told = reader.takeNumber(0, 999);
+                told = reader.numberHere(0, GREATEST_NUMBER);
             }
             if (told == NONE) {
                 return false;
+            }
+            if (word.sort != TRAIT) {
+                reader.advance();
             }
             add(word, told, compared);
             return true;

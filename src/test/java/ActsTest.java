@@ -216,6 +216,14 @@ public final class ActsTest {
         DUE.is("north", x.go(1, 3), 0);
         DUE.is("north", x.go(1, 3), 0);
         of(x, 1, 29, 28);
+        x.go(1, 0);
+        x.go(1, 1);
+        x.go(1, 1);
+        of(x, 1, 30, 30);
+        x.go(0, 2);
+        x.go(0, 3);
+        x.go(0, 3);
+        of(x, 0, 0, 0);
     }
 
     private static void hoursPassOrders() {

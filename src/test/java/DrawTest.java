@@ -137,6 +137,15 @@ public final class DrawTest {
             }
             DUE.is("odds(" + m + ", 30)", x.odds(m, 30, seed), due);
         }
+        int one = 0;
+        for (int i = 0; i < 40; i++) {
+            BrowArmy each = Due.of(army);
+            each.drawn(20, i);
+            int has = each.man(2, 6) == -1 ? 0 : 1;
+            one += has;
+            DUE.is("odds(2, 1, " + i + ")", x.odds(2, 1, i), has);
+        }
+        DUE.is("some and not all", one > 0 && one < 40, true);
         DUE.is("odds(0), who is under nobody", x.odds(0, 30, 5), 0);
         DUE.is("now(0)", x.now(0), 0);
         DUE.is("now(6)", x.now(6), 0);

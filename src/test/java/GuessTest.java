@@ -75,6 +75,11 @@ public final class GuessTest {
         Due.army(x, "");
         DUE.is("look() stays", x.look(), 1);
         DUE.is("wrong() stays", x.wrong(), 0);
+        BrowArmy z = Due.of("order a both left;order b both right;order c left left;");
+        meant(z, 0, 0);
+        DUE.is("look() of like ones", z.look(), 0);
+        meant(z, 3, 0);
+        DUE.is("look() of two with the third lift", z.look(), 1);
         BrowArmy y = Due.of("order a left left;order b left right;order c both right;order d both left;");
         meant(y, 0, 0);
         DUE.is("look() of like ones", y.look(), 0);

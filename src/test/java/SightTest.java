@@ -187,6 +187,23 @@ public final class SightTest {
         z.stand(0);
         DUE.is("cell(0)", z.cell(0), 9);
         DUE.is("cell(1)", z.cell(1), 10);
+        // at the field's corners
+        int[] ends = {0, 30};
+        for (int cornerX : ends) {
+            for (int cornerY : ends) {
+                BrowArmy corner = Due.of("man a 15 15 1;man b " + cornerX + " " + cornerY + " 1;under b a;foe 15 15;clear 1;");
+                for (int n = 0; n < 15; n++) {
+                    corner.go(0, cornerX == 0 ? 2 : 0);
+                    corner.go(0, cornerY == 0 ? 3 : 1);
+                }
+                DUE.is("stand(0) at a corner", corner.stand(0), 1);
+                DUE.is("cell(0)", corner.cell(0), cornerX);
+                DUE.is("cell(1)", corner.cell(1), cornerY);
+                DUE.is("hide(0) at a corner", corner.hide(0), 0);
+                DUE.is("cell(0)", corner.cell(0), cornerX);
+                DUE.is("cell(1)", corner.cell(1), cornerY);
+            }
+        }
         BrowArmy w = Due.of("man a 10 10 1;man b 14 10 9;under b a;clear 3;");
         w.go(0, 0);
         DUE.is("stand(0) where he is", w.stand(0), 1);
@@ -245,5 +262,7 @@ public final class SightTest {
         DUE.is("unrest() all sooted", x.unrest(), 4);
         x.hours(6);
         DUE.is("unrest() rained", x.unrest(), 4);
+        DUE.is("unrest() of some", Due.of("man a 0 0 7;man b 0 0 8;man c 0 0 6;man d 0 0 8;under a c;under b c;under d b;")
+            .unrest(), 3);
     }
 }

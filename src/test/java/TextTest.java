@@ -268,5 +268,17 @@ public final class TextTest {
         }
         DUE.is("said(-1)", x.said(-1), -1);
         DUE.is("undo()", x.undo(), -1);
+        // nobody is joined or grey, and there are no foes, because an army ahead of it had them
+        BrowArmy y = Due.of("man a 0 0 9;man b 0 1 9 joined grey;under b a;order o left left;order p both both;foe 0 0;");
+        y.give(0, 0);
+        Due.army(y, "man a 0 0 9;man b 0 1 9;under b a;order o left left;order p both both;");
+        DUE.is("count(2)", y.count(2), 0);
+        DUE.is("foes(0)", y.foes(0), 0);
+        DUE.is("now(4)", y.now(4), 0);
+        Due.sentence(y, "joined or grey");
+        DUE.is("said(-1)", y.said(-1), 0);
+        y.give(0, 0);
+        y.give(0, 1);
+        DUE.is("man(1, 6)", y.man(1, 6), 1);
     }
 }
