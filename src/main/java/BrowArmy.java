@@ -917,7 +917,7 @@ public final class BrowArmy {
 
         // ---- the text
 
-        /** How many lines there are; what it says is for nothing if the reader has a fault. */
+        /** How many lines there are; what it reads is for nothing if the reader has a fault. */
         int readFrom(Reader reader) {
             men = 0;
             joined = 0;
@@ -1535,16 +1535,16 @@ public final class BrowArmy {
         int hour = NONE;
         int holders = NONE;
 
-        boolean readFrom(Reader reader, Army army) {
+        /** What it reads is for nothing if the reader has a fault. */
+        void readFrom(Reader reader, Army army) {
             lines = 0;
             // one line more than may be, so that it is refused
             for (int n = 0; n <= MOST_LINES && reader.kind != END; n++) {
                 if (!readLine(reader, army) || !reader.takeSign(';')) {
-                    return false;
+                    return;
                 }
                 lines++;
             }
-            return true;
         }
 
         private boolean readLine(Reader reader, Army army) {

@@ -310,6 +310,10 @@ public final class ActsTest {
         }
         DUE.is("now(5)", x.now(5), 99);
         DUE.is("now(6)", x.now(6), 204);
+        BrowArmy y = Due.of("man b 0 0 1;man a 0 0 1;under b a;");
+        y.lift(1, 1);
+        y.lift(1, 2);
+        DUE.is("now(5) of the first", y.now(5), 1);
     }
 
     private static void undoEach() {

@@ -1,4 +1,5 @@
 import java.util.ArrayList;
+import java.util.Collections;
 import java.util.List;
 import java.util.Random;
 
@@ -110,9 +111,11 @@ public final class ModelTest {
                 .append(r(10)).append(r(3) == 0 ? " joined" : "").append(r(3) == 0 ? "\ngrey" : "").append(';');
         }
         boolean tree = r(10) != 0;
+        List<String> ranks = new ArrayList<>(List.of(MEN).subList(0, men));
+        Collections.shuffle(ranks, random);
         for (int m = 1; m < men; m++) {
             if (r(6) != 0) {
-                text.append("under ").append(MEN[m]).append(' ').append(MEN[tree ? r(m) : r(men)]).append("; ");
+                text.append("under ").append(ranks.get(m)).append(' ').append(ranks.get(tree ? r(m) : r(men))).append("; ");
             }
         }
         List<String> pairs = new ArrayList<>();

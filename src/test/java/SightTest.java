@@ -149,6 +149,25 @@ public final class SightTest {
         BrowArmy x = Due.of("man a 0 0 1;man b 2 0 1;man c 30 30 9;under b a;under c b;order o left left;");
         DUE.is("soon(0, 0)", x.soon(0, 0), -1);
         DUE.is("reach(0, 0)", x.reach(0, 0), 2);
+        // a chain of all eight, the first one at its end
+        StringBuilder chain = new StringBuilder("order o left left;");
+        for (char c = 'a'; c <= 'h'; c++) {
+            chain.append("man ").append(c).append(" 0 0 1;");
+        }
+        for (char c = 'a'; c < 'h'; c++) {
+            chain.append("under ").append(c).append(' ').append((char) (c + 1)).append(';');
+        }
+        BrowArmy y = Due.of(chain.toString());
+        DUE.is("reach(7, 0)", y.reach(7, 0), 127);
+        DUE.is("soon(7, 0)", y.soon(7, 0), 6);
+        DUE.is("soon(1, 0)", y.soon(1, 0), 0);
+        y.sleep(0);
+        DUE.is("soon(7, 0) past a sleeper", y.soon(7, 0), -1);
+        DUE.is("stand(1)", y.stand(1), 1);
+        DUE.is("hide(1)", y.hide(1), 0);
+        DUE.is("a told under h again, over others", Due.army(y, chain + "under h a;"), -1 - chain.length() - 8);
+        DUE.is("sentence()", Due.sentence(y, "under b"), 1);
+        DUE.is("said(0)", y.said(0), 0);
     }
 
     private static void bestOfLikeOnesTheFirst() {
