@@ -43,13 +43,13 @@ final class Due {
         }
     }
 
-    /** The bytes are behind the tape then. */
+    /** The bytes are behind the tape then; those cut off behind them are digits, which no call may still read. */
     static void lay(BrowArmy x, int... bytes) {
         int before = x.count(5);
         for (int at = 0; at < bytes.length; at += 20) {
             int[] five = new int[5];
             for (int i = 0; i < 20; i++) {
-                int value = at + i < bytes.length ? bytes[at + i] & 255 : 0;
+                int value = at + i < bytes.length ? bytes[at + i] & 255 : '9';
                 five[i / 4] |= value << (24 - 8 * (i % 4));
             }
             x.feed(five[0], five[1], five[2], five[3], five[4]);

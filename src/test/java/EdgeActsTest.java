@@ -167,7 +167,7 @@ public final class EdgeActsTest {
     private static void aNewArmyIsAtHourNought() {
         EDGE.of(4, "A new ARMY: HOUR 0, nobody ASLEEP, SOOTED, HEARD or has anything, no SENTENCE");
         String army = "man a 0 0 9;man b 0 1 3;under b a;order o left right;";
-        BrowArmy x = EDGE.army(army, 4);
+        BrowArmy x = EDGE.army("man a 0 0 9 joined;man b 0 1 3 grey;under b a;order o left right;foe 0 0;clear 5;rain 30;", 7);
         x.lift(0, 1);
         x.lift(0, 1);
         x.give(0, 0);
@@ -176,9 +176,19 @@ public final class EdgeActsTest {
         x.soot(1);
         x.go(1, 0);
         x.hours(3);
+        x.wake(1);
+        x.lift(0, 3);
         x.give(0, 0);
+        x.give(0, 0);
+        x.lift(0, 1);
+        x.sleep(1);
+        EDGE.now(x, 4, 2);
         Due.sentence(x, "asleep");
         Due.army(x, army);
+        int[] counts = {2, 1, 0, 2, 6, 0};
+        for (int what = 0; what < counts.length; what++) {
+            EDGE.is("count(" + what + ")", x.count(what), counts[what]);
+        }
         for (int what = 0; what < 7; what++) {
             EDGE.now(x, what, 0);
         }
@@ -188,6 +198,7 @@ public final class EdgeActsTest {
         }
         EDGE.is("said(-1)", x.said(-1), -1);
         EDGE.is("order(0, 2)", x.order(0, 2), 0);
+        EDGE.sentence(x, "joined or grey", 2, 0);
     }
 
     // ---- lifts and orders
@@ -324,6 +335,15 @@ public final class EdgeActsTest {
         EDGE.now(x, 5, 198);
         EDGE.man(x, 0, 8, 99);
         EDGE.man(x, 1, 8, 99);
+        // eight men, of whom seven are lost at once
+        StringBuilder eight = new StringBuilder("man a 0 0 1;");
+        for (char man = 'b'; man <= 'h'; man++) {
+            eight.append("man ").append(man).append(" 0 0 1;under ").append(man).append(" a;");
+        }
+        BrowArmy full = EDGE.army(eight.toString(), 15);
+        full.lift(0, 1);
+        full.lift(0, 1);
+        EDGE.now(full, 5, 7);
     }
 
     private static void liftsSoFar() {

@@ -422,6 +422,10 @@ public final class EdgeArmyTest {
         EDGE.armyFault("man a 31 0 10;man a 0 0 0;?", 6, 2);
         EDGE.armyFault("man a 0 0 10;? ", 10, 2);
         EDGE.armyFault("man a 0 0 0;man a 31 0 0;", 16, 3);
+        EDGE.armyFault("order a;?", 7, 1);
+        EDGE.armyFault("order a left;?", 12, 1);
+        EDGE.bookFault(new BrowArmy(), "hour;?", 4, 1);
+        EDGE.bookFault(EDGE.army("man a 0 0 9;", 1), "a;?", 1, 1);
         EDGE.armyFault("man a 0 0 0?man a 31 0 0;", 11, 1);
         EDGE.armyFault(eight() + "man a 31 0 0;", 96, 4);
         EDGE.armyFault(seven() + "order p left left;", seven().length(), 4);

@@ -44,6 +44,7 @@ public final class EdgeBookTest {
         hisNumber();
         idleHasNoOrder();
         underNotOverOthers();
+        seesAnother();
         aSentenceStays();
         howManyOrTheKth();
         noSentence();
@@ -458,6 +459,25 @@ public final class EdgeBookTest {
         EDGE.sentence(x, "under a", 1, 2);
         EDGE.sentence(x, "under b", 1, 4);
         EDGE.sentence(x, "under c", 1, 0);
+        // the first man, and several
+        BrowArmy full = EDGE.army("man a 0 0 1;man b 0 0 1;man c 0 0 1;man d 0 0 1;man e 0 0 1;man f 0 0 1;man g 0 0 1;"
+            + "man h 0 0 1;under a h;under c h;under g h;under h f;", 12);
+        EDGE.sentence(full, "under h", 1, 69);
+        EDGE.sentence(full, "under f", 1, 128);
+    }
+
+    private static void seesAnother() {
+        EDGE.of(39, "'sees' MAN");
+        BrowArmy x = EDGE.army("man a 0 0 1;man b 1 1 2;man c 4 1 9;man d 0 0 0;", 4);
+        EDGE.sentence(x, "sees a", 1, 10);
+        EDGE.sentence(x, "sees b", 1, 13);
+        EDGE.sentence(x, "sees c", 1, 11);
+        EDGE.sentence(x, "sees d", 1, 0);
+        x.sleep(0);
+        EDGE.sentence(x, "sees b", 1, 12);
+        EDGE.sentence(x, "sees a", 1, 10);
+        x.soot(3);
+        EDGE.sentence(x, "sees d", 1, 6);
     }
 
     private static void aSentenceStays() {

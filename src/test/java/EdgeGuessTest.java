@@ -276,7 +276,11 @@ public final class EdgeGuessTest {
             all[2 * m] = m;
             all[2 * m + 1] = 1;
         }
-        EDGE.is("scratch() of all eight", scratch(EDGE.army(eight.toString(), 15), all), 1);
+        BrowArmy full = EDGE.army(eight.toString(), 15);
+        EDGE.is("scratch() of all eight", scratch(full, all), 1);
+        EDGE.is("ask() of one, whom seven read", full.ask(), 0);
+        EDGE.is("scratch() of none of the eight", scratch(full, 0, 0), 255);
+        EDGE.is("ask() of eight", full.ask(), 1);
     }
 
     private static void askAsManyAsNot() {
@@ -324,6 +328,11 @@ public final class EdgeGuessTest {
         EDGE.is("ask() behind a scratch() of NONE", x.ask(), 3);
         x.sleep(3);
         EDGE.is("ask() as it was then", x.ask(), 3);
+        EDGE.is("scratch() of the first man alone", scratch(x, 1, 1), 1);
+        EDGE.is("ask() behind a scratch() of 1", x.ask(), 0);
+        x.wake(3);
+        scratch(x, 1, 0);
+        EDGE.is("ask()", x.ask(), 3);
         Due.army(x, "");
         EDGE.is("ask() in a new army", x.ask(), 3);
     }

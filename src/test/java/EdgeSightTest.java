@@ -178,6 +178,10 @@ public final class EdgeSightTest {
         y.soot(0);
         y.soot(1);
         EDGE.is("unrest(), 9 each", y.unrest(), 0);
+        // the first and the last of eight
+        BrowArmy full = EDGE.army("man a 0 0 2;man b 0 0 1;man c 0 0 1;man d 0 0 1;man e 0 0 1;man f 0 0 1;man g 0 0 1;"
+            + "man h 0 0 2;under a b;under h b;", 10);
+        EDGE.is("unrest()", full.unrest(), 129);
         // by him straight above, not over others
         BrowArmy z = EDGE.army("man a 0 0 3;man b 0 0 9;man c 0 0 5;under b a;under c b;", 5);
         EDGE.is("unrest()", z.unrest(), 2);
@@ -272,6 +276,13 @@ public final class EdgeSightTest {
         for (int m = 0; m < 7; m++) {
             EDGE.is("soon(" + m + ", 0)", x.soon(m, 0), 6 - m);
         }
+        // the first man is the last of the line
+        BrowArmy turned = EDGE.army("order o left left;man b 2 0 1;man a 0 0 1;under b a;", 4);
+        EDGE.is("soon(1, 0)", turned.soon(1, 0), 0);
+        EDGE.is("stand(1)", turned.stand(1), 1);
+        EDGE.is("hide(1)", turned.hide(1), 0);
+        turned.sleep(0);
+        EDGE.is("soon(1, 0), he is asleep", turned.soon(1, 0), -1);
         EDGE.of(21, "0: they have it as he gives it; nobody is: 0");
         EDGE.is("soon(6, 0), one under him", x.soon(6, 0), 0);
         EDGE.is("soon(7, 0), nobody under him", x.soon(7, 0), 0);
