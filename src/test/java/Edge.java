@@ -9,6 +9,11 @@ import java.nio.file.Path;
 final class Edge {
     private static final Path DOCUMENT = Path.of("../shared/DOC.md");
 
+    static final String[] TOLD_WORDS = {"man", "joined", "grey", "under", "order", "foe", "clear", "rain",
+        "left", "right", "both", "lifts", "gives", "sleeps", "wakes", "soots", "goes", "hour", "east", "south", "west",
+        "north", "or", "and", "not", "asleep", "sooted", "idle", "sees", "has", "brow", "heard", "lost", "number"};
+    private static final String[] LIFTS = {"left", "right", "both"};
+
     private final Due due = new Due();
     private final String document;
     private String heading = "";
@@ -93,6 +98,24 @@ final class Edge {
             men |= 1 << x.said(k);
         }
         return men;
+    }
+
+    /** The texts of as many men, and of as many orders, as there may be. */
+    static String eightMen() {
+        StringBuilder men = new StringBuilder();
+        for (char c = 'a'; c <= 'h'; c++) {
+            men.append("man ").append(c).append(" 0 0 0;");
+        }
+        return men.toString();
+    }
+
+    static String sevenOrders() {
+        StringBuilder orders = new StringBuilder();
+        for (int i = 0; i < 7; i++) {
+            orders.append("order ").append((char) ('p' + i)).append(' ').append(LIFTS[i / 3]).append(' ')
+                .append(LIFTS[i % 3]).append(';');
+        }
+        return orders.toString();
     }
 
     // ---- what is so

@@ -1,16 +1,12 @@
-/** Boundary cases of TOKENS and of an ARMY's text (promises 4 and 5, and the terms that bind them). */
+/** Boundary cases of TOKENS and of an ARMY's text (promise 4, and the terms that bind it). */
 public final class EdgeArmyTest {
     private static final Edge EDGE = new Edge();
-    private static final String[] TOLD_WORDS = {"man", "joined", "grey", "under", "order", "foe", "clear", "rain",
-        "left", "right", "both", "lifts", "gives", "sleeps", "wakes", "soots", "goes", "hour", "east", "south", "west",
-        "north", "or", "and", "not", "asleep", "sooted", "idle", "sees", "has", "brow", "heard", "lost", "number"};
     private static final String[] LIFTS = {"left", "right", "both"};
 
     public static void main(String[] args) {
         tokens();
         anArmysLines();
         anArmysNames();
-        faults();
         EDGE.finish();
     }
 
@@ -46,17 +42,6 @@ public final class EdgeArmyTest {
         sevenOrders();
         fourFoes();
         numberedFromNought();
-    }
-
-    private static void faults() {
-        theFirstAlongTheText();
-        ofOneTokenTheLeast();
-        atTheEnd();
-        atTheMostBytes();
-        tokensAheadAreReadWhole();
-        numbersNotAsTold();
-        namesNotAsTold();
-        oneMoreOfASort();
     }
 
     // ---- tokens
@@ -170,11 +155,11 @@ public final class EdgeArmyTest {
     }
 
     private static String full() {
-        StringBuilder text = new StringBuilder(eight());
+        StringBuilder text = new StringBuilder(Edge.eightMen());
         for (char c = 'b'; c <= 'h'; c++) {
             text.append("under ").append(c).append(' ').append((char) (c - 1)).append(';');
         }
-        return text + seven() + "foe 0 0;foe 0 0;foe 30 30;foe 30 30;clear 5;rain 30;";
+        return text + Edge.sevenOrders() + "foe 0 0;foe 0 0;foe 30 30;foe 30 30;clear 5;rain 30;";
     }
 
     private static void anArmyMayBeEmptyOrFull() {
@@ -249,7 +234,7 @@ public final class EdgeArmyTest {
 
     private static void nobodyUnderHimself() {
         EDGE.of(4, "a second one who is the first or UNDER him, over others, too (at him)");
-        String men = eight();
+        String men = Edge.eightMen();
         int under = men.length();
         EDGE.armyFault(men + "under a a;", under + 8, 3);
         EDGE.armyFault(men + "under h h;", under + 8, 3);
@@ -339,7 +324,7 @@ public final class EdgeArmyTest {
 
     private static void namesAreNoToldWords() {
         EDGE.of(4, "NAME: a WORD, none of those told here, in a BOOK or a SENTENCE; told once");
-        for (String word : TOLD_WORDS) {
+        for (String word : Edge.TOLD_WORDS) {
             EDGE.armyFault("man " + word + " 0 0 0;", 4, 1);
             EDGE.armyFault("order " + word + " left left;", 6, 1);
             EDGE.armyFault("man a 0 0 0;under " + word + " a;", 18, 1);
@@ -364,35 +349,18 @@ public final class EdgeArmyTest {
         EDGE.armyFault("man abcdefg 0 0 0;man bbcdefg 0 0 0;man abcdefg 0 0 0;", 40, 3);
     }
 
-    private static String eight() {
-        StringBuilder men = new StringBuilder();
-        for (char c = 'a'; c <= 'h'; c++) {
-            men.append("man ").append(c).append(" 0 0 0;");
-        }
-        return men.toString();
-    }
-
-    private static String seven() {
-        StringBuilder orders = new StringBuilder();
-        for (int i = 0; i < 7; i++) {
-            orders.append("order ").append((char) ('p' + i)).append(' ').append(LIFTS[i / 3]).append(' ')
-                .append(LIFTS[i % 3]).append(';');
-        }
-        return orders.toString();
-    }
-
     private static void eightMen() {
         EDGE.of(4, "8 MEN, 7 ORDERS, 4 FOES at most, numbered from 0 each");
-        EDGE.is("count(0)", EDGE.army(eight(), 8).count(0), 8);
-        EDGE.armyFault(eight() + "man i 0 0 0;", 96, 4);
-        EDGE.armyFault("foe 0 0; " + eight() + " man i 0 0 0;", 106, 4);
+        EDGE.is("count(0)", EDGE.army(Edge.eightMen(), 8).count(0), 8);
+        EDGE.armyFault(Edge.eightMen() + "man i 0 0 0;", 96, 4);
+        EDGE.armyFault("foe 0 0; " + Edge.eightMen() + " man i 0 0 0;", 106, 4);
     }
 
     private static void sevenOrders() {
         EDGE.of(4, "8 MEN, 7 ORDERS, 4 FOES at most, numbered from 0 each");
-        EDGE.is("count(1)", EDGE.army(seven(), 7).count(1), 7);
-        EDGE.armyFault(seven() + "order i both right;", seven().length(), 4);
-        EDGE.armyFault(eight() + seven() + "order i both both;", 96 + seven().length(), 4);
+        EDGE.is("count(1)", EDGE.army(Edge.sevenOrders(), 7).count(1), 7);
+        EDGE.armyFault(Edge.sevenOrders() + "order i both right;", Edge.sevenOrders().length(), 4);
+        EDGE.armyFault(Edge.eightMen() + Edge.sevenOrders() + "order i both both;", 96 + Edge.sevenOrders().length(), 4);
     }
 
     private static void fourFoes() {
@@ -413,148 +381,5 @@ public final class EdgeArmyTest {
         }
         x.soot(0);
         EDGE.is("foes(0)", x.foes(0), 3);
-    }
-
-    // ---- faults
-
-    private static void theFirstAlongTheText() {
-        EDGE.of(5, "FAULTS, the first along the text, of one TOKEN the least");
-        EDGE.armyFault("man a 31 0 10;man a 0 0 0;?", 6, 2);
-        EDGE.armyFault("man a 0 0 10;? ", 10, 2);
-        EDGE.armyFault("man a 0 0 0;man a 31 0 0;", 16, 3);
-        EDGE.armyFault("order a;?", 7, 1);
-        EDGE.armyFault("order a left;?", 12, 1);
-        EDGE.bookFault(new BrowArmy(), "hour;?", 4, 1);
-        EDGE.bookFault(EDGE.army("man a 0 0 9;", 1), "a;?", 1, 1);
-        EDGE.armyFault("man a 0 0 0?man a 31 0 0;", 11, 1);
-        EDGE.armyFault(eight() + "man a 31 0 0;", 96, 4);
-        EDGE.armyFault(seven() + "order p left left;", seven().length(), 4);
-    }
-
-    private static void ofOneTokenTheLeast() {
-        EDGE.of(5, "FAULTS, the first along the text, of one TOKEN the least");
-        BrowArmy x = EDGE.army("man a 0 0 9;order o left left;", 2);
-        String forty = "hour 1;".repeat(40);
-        // no token or one that can't come, a name that is none, one line more: all at the 41st line's first
-        EDGE.bookFault(x, forty + "?", 280, 1);
-        EDGE.bookFault(x, forty + "left", 280, 1);
-        EDGE.bookFault(x, forty + "zz", 280, 3);
-        EDGE.bookFault(x, forty + "o", 280, 3);
-        EDGE.bookFault(x, forty + "a", 280, 4);
-        EDGE.bookFault(x, forty + "hour", 280, 4);
-        String twenty = "idle" + " or idle".repeat(19) + " or ";
-        EDGE.sentenceFault(x, twenty + "?", twenty.length(), 1);
-        EDGE.sentenceFault(x, twenty + "a", twenty.length(), 1);
-        EDGE.sentenceFault(x, twenty + "idle", twenty.length(), 4);
-        EDGE.armyFault("man a 999x 0 0;", 6, 1);
-    }
-
-    private static void atTheEnd() {
-        EDGE.of(5, "the end: how many bytes there are");
-        String line = "man a 30 30 9 joined grey;";
-        for (int length = 1; length < line.length(); length++) {
-            String text = line.substring(0, length);
-            // a word that is cut can't come, where it is not a name
-            int cut = text.matches("ma?") ? 0 : text.matches(".*9 j[a-z]*") && !text.endsWith("joined") ? 14
-                : text.matches(".*joined g[a-z]*") && !text.endsWith("grey") ? 21 : length;
-            EDGE.armyFault(text, cut, 1);
-        }
-        EDGE.armyFault("man a 0 0 0  ", 13, 1);
-        EDGE.armyFault("man a 0 0 0\n\n", 13, 1);
-        EDGE.armyFault(Due.padded("rain", 900), 900, 1);
-        BrowArmy x = EDGE.army("man a 0 0 9;", 1);
-        EDGE.bookFault(x, "a ", 2, 1);
-        EDGE.bookFault(x, Due.padded("a sleeps", 400), 400, 1);
-        EDGE.sentenceFault(x, "", 0, 1);
-        EDGE.sentenceFault(x, "\n \n", 3, 1);
-        EDGE.sentenceFault(x, Due.padded("idle and", 200), 200, 1);
-    }
-
-    private static void atTheMostBytes() {
-        EDGE.of(5, "the most bytes told, if there are more and no FAULT is ahead");
-        EDGE.armyFault(Due.padded("man a 0 0", 901), 900, 1);
-        EDGE.armyFault(Due.padded("man a 0 0", 940), 900, 1);
-        EDGE.armyFault(Due.padded("rain 6;", 900) + "?", 900, 1);
-        EDGE.armyFault(Due.padded("rain 6;", 905) + "clear 9;", 900, 1);
-        EDGE.armyFault(Due.padded("rain 6;", 910) + "?", 900, 1);
-        // a fault ahead
-        EDGE.armyFault(Due.padded("rain 31;", 940), 5, 2);
-        EDGE.armyFault(Due.padded("rain 6;", 899) + "?" + " ".repeat(40), 899, 1);
-        EDGE.armyFault(Due.padded("rain 6;", 899) + ";", 899, 1);
-        BrowArmy x = EDGE.army("man a 0 0 9;", 1);
-        EDGE.bookFault(x, Due.padded("a sleeps;", 401), 400, 1);
-        EDGE.bookFault(x, Due.padded("a sleep;", 940), 2, 1);
-        EDGE.sentenceFault(x, Due.padded("idle", 201), 200, 1);
-        EDGE.sentenceFault(x, Due.padded("idle idle", 940), 5, 1);
-    }
-
-    private static void tokensAheadAreReadWhole() {
-        EDGE.of(5, "TOKENS that begin ahead of it are read whole");
-        EDGE.armyFault(Due.padded("rain", 899) + "30", 900, 1);
-        EDGE.armyFault(Due.padded("rain", 899) + "31", 899, 2);
-        EDGE.armyFault(Due.padded("rain", 899) + "300", 899, 2);
-        EDGE.armyFault(Due.padded("rain", 899) + "3000", 899, 1);
-        EDGE.armyFault(Due.padded("rain", 900) + "31", 900, 1);
-        EDGE.armyFault(Due.padded("rain 6;", 899) + "clear 2;", 900, 1);
-        EDGE.armyFault(Due.padded("rain 6;", 899) + "cleary", 899, 1);
-        EDGE.armyFault(Due.padded("rain 6;", 899) + "rain", 899, 3);
-        EDGE.armyFault(Due.padded("rain 6;", 900) + "rain", 900, 1);
-        EDGE.armyFault(Due.padded("rain 6", 899) + "; ", 900, 1);
-        EDGE.armyFault(Due.padded("man", 899) + "a".repeat(7), 900, 1);
-        EDGE.armyFault(Due.padded("man", 899) + "a".repeat(8), 899, 1);
-        BrowArmy x = EDGE.army("man ab 0 0 9;", 1);
-        EDGE.bookFault(x, " ".repeat(399) + "ab sleeps;", 400, 1);
-        EDGE.bookFault(x, " ".repeat(399) + "ac sleeps;", 399, 3);
-        EDGE.bookFault(x, Due.padded("hour", 399) + "60;", 400, 1);
-        EDGE.bookFault(x, Due.padded("hour", 399) + "61;", 399, 2);
-        EDGE.sentenceFault(x, " ".repeat(199) + "idle", 200, 1);
-        EDGE.sentenceFault(x, " ".repeat(199) + "idol", 199, 1);
-        EDGE.sentenceFault(x, Due.padded("under", 199) + "ab", 200, 1);
-        EDGE.sentenceFault(x, Due.padded("under", 199) + "ac", 199, 3);
-    }
-
-    private static void numbersNotAsTold() {
-        EDGE.of(5, "2 a NUMBER that is not as told (at it)");
-        EDGE.armyFault("man  a  31 0 0;", 8, 2);
-        EDGE.armyFault("man a 0 0 \n10;", 11, 2);
-        EDGE.armyFault("rain  0", 6, 2);
-        BrowArmy x = EDGE.army("man a 0 0 9;", 1);
-        EDGE.bookFault(x, "hour  61", 6, 2);
-        // a sentence takes every number
-        EDGE.sentence(x, "brow<000", 1, 0);
-        EDGE.sentence(x, "brow<999", 1, 1);
-    }
-
-    private static void namesNotAsTold() {
-        EDGE.of(5, "3 a NAME told twice, not told, or of another sort");
-        EDGE.armyFault("under a b;", 6, 3);
-        EDGE.armyFault("man a 0 0 0;under a b;", 20, 3);
-        EDGE.armyFault("man a 0 0 0;under a b;man b 0 0 0;", 20, 3);
-        EDGE.armyFault("order o left left;under o o;", 24, 3);
-        EDGE.armyFault("man a 0 0 0;order o left left;under a o;", 38, 3);
-        BrowArmy x = EDGE.army("man a 0 0 9;order o left left;", 2);
-        EDGE.bookFault(x, "b sleeps;", 0, 3);
-        EDGE.bookFault(x, "o sleeps;", 0, 3);
-        EDGE.bookFault(x, "a gives b;", 8, 3);
-        EDGE.bookFault(x, "a gives a;", 8, 3);
-        EDGE.sentenceFault(x, "under b", 6, 3);
-        EDGE.sentenceFault(x, "sees o", 5, 3);
-        EDGE.sentenceFault(x, "has a", 4, 3);
-        // names of an army ahead of it are not told
-        Due.army(x, "man c 0 0 9;order p left left;");
-        EDGE.bookFault(x, "a sleeps;", 0, 3);
-        EDGE.bookFault(x, "c gives o;", 8, 3);
-        EDGE.sentenceFault(x, "under a", 6, 3);
-        EDGE.army("man a 0 0 0;order o left left;", 2);
-    }
-
-    private static void oneMoreOfASort() {
-        EDGE.of(5, "4 one more than there may be of a sort, a 41st LINE of a BOOK (at the LINE's first WORD)");
-        EDGE.armyFault(eight() + "  man", 98, 4);
-        EDGE.armyFault(seven() + "\norder", seven().length() + 1, 4);
-        EDGE.armyFault("foe 0 0;foe 0 0;foe 0 0;foe 0 0; foe", 33, 4);
-        BrowArmy x = EDGE.army("man a 0 0 9;", 1);
-        EDGE.bookFault(x, "hour 1;".repeat(40) + "  a", 282, 4);
-        EDGE.bookFault(x, "hour 1;".repeat(40) + "  hour", 282, 4);
     }
 }
