@@ -27,6 +27,7 @@ public final class EdgeActsTest {
         liftOfNoBrow();
         whoHasAnOrderAndIsJoined();
         heardThenRead();
+        eachWhoReads();
         lostNinetyNine();
         allLost();
         liftsSoFar();
@@ -142,7 +143,7 @@ public final class EdgeActsTest {
     }
 
     private static void nowHasSevenWhats() {
-        EDGE.of(8, "5 how often all were LOST, 6 LIFTS so far (of GIVING two each). NONE for another what");
+        EDGE.of(8, "0 the HOUR, 1 who is ASLEEP, 2 SOOTED, 3 has an ORDER, 4 has one to be passed on, as bits each, 5 how often all were LOST, 6 LIFTS so far (of GIVING two each). NONE for another what");
         for (int what = 0; what < 7; what++) {
             EDGE.now(new BrowArmy(), what, 0);
         }
@@ -312,6 +313,28 @@ public final class EdgeActsTest {
         EDGE.man(x, 1, 7, 1);
     }
 
+    private static void eachWhoReads() {
+        EDGE.of(9, "each who READS him, by number");
+        // seven under the last one: one asleep, one too far, one under another
+        BrowArmy x = EDGE.army("man a 0 0 1;man b 1 1 1;man c 1 2 1;man d 0 0 1;man e 0 0 1;man f 2 0 0;man g 0 1 9;man h 0 0 1;"
+            + "under a h;under b h;under c h;under d h;under e a;under f h;under g h;clear 2;order o left left;", 17);
+        x.sleep(3);
+        EDGE.is("reads(7)", x.reads(7), 99);
+        x.lift(7, 2);
+        int[] heard = {2, 2, 0, 0, 0, 2, 2, 0};
+        for (int m = 0; m < 8; m++) {
+            EDGE.man(x, m, 5, heard[m]);
+        }
+        x.undo();
+        x.give(7, 0);
+        EDGE.is("order(0, 2)", x.order(0, 2), 99);
+        EDGE.now(x, 4, 99);
+        EDGE.is("lift(4, 1), whom nobody reads", x.lift(4, 1), 0);
+        for (int m = 0; m < 8; m++) {
+            EDGE.man(x, m, 5, 0);
+        }
+    }
+
     private static void lostNinetyNine() {
         EDGE.of(9, "else he is LOST once more (99 at most)");
         BrowArmy x = EDGE.army("man a 0 0 1;man b 0 0 1;under b a;", 3);
@@ -410,7 +433,9 @@ public final class EdgeActsTest {
         EDGE.is("sleep(0) again", x.sleep(0), 1);
         EDGE.now(x, 1, 9);
         EDGE.is("sleep(0) without men", new BrowArmy().sleep(0), -1);
+        EDGE.of(11, "To SLEEP: 1 he is ASLEEP");
         Twins.leaves(EDGE, "sleep(2), who is", 1, y -> y.sleep(2));
+        EDGE.of(11, "0, or why not; NONE: no such one");
         for (int m : Edge.outside(0, 4)) {
             Twins.leaves(EDGE, "sleep(" + m + ")", -1, y -> y.sleep(m));
         }
@@ -428,7 +453,9 @@ public final class EdgeActsTest {
         EDGE.is("wake(0)", x.wake(0), 0);
         EDGE.now(x, 1, 0);
         EDGE.is("wake(0) without men", new BrowArmy().wake(0), -1);
+        EDGE.of(12, "To WAKE: 1 he is not");
         Twins.leaves(EDGE, "wake(0), who is not", 1, y -> y.wake(0));
+        EDGE.of(12, "0, or why not; NONE: no such one");
         for (int m : Edge.outside(0, 4)) {
             Twins.leaves(EDGE, "wake(" + m + ")", -1, y -> y.wake(m));
         }
@@ -443,7 +470,9 @@ public final class EdgeActsTest {
         EDGE.is("soot(3) again", x.soot(3), 1);
         EDGE.now(x, 2, 9);
         EDGE.is("soot(0) without men", new BrowArmy().soot(0), -1);
+        EDGE.of(13, "To SOOT him: 1 he is SOOTED");
         Twins.leaves(EDGE, "soot(3), who is", 1, y -> y.soot(3));
+        EDGE.of(13, "0, or why not; NONE: no such one");
         for (int m : Edge.outside(0, 4)) {
             Twins.leaves(EDGE, "soot(" + m + ")", -1, y -> y.soot(m));
         }

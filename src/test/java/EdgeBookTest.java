@@ -16,6 +16,7 @@ public final class EdgeBookTest {
         theLineThatIsWrong();
         whyItWasWrong();
         fewerHoursAreLeft();
+        linesHourAndWhoHas();
         toldOfTheLatestWithoutAFault();
         toldAheadOfAny();
         placeOfABooksFault();
@@ -201,6 +202,24 @@ public final class EdgeBookTest {
         EDGE.is("book(1) at 400", Due.book(x, 1, "a gives o;hour 1;"), 1);
         told(x, 61, 1, 400, 2);
         EDGE.now(x, 0, 400);
+    }
+
+    private static void linesHourAndWhoHas() {
+        EDGE.of(38, "1 LINES that are not, 2 the HOUR then, 3 who has an ORDER then, as bits");
+        String[] books = {"", "c wakes;hour 9;", "a gives o;", "a gives o;hour 1;", "a gives p;hour 1;a wakes;hour 5;b gives o;"};
+        int[] wrong = {-1, 0, -1, -1, 2};
+        int[][] due = {{0, 0, 3, 0}, {31, 0, 3, 0}, {0, 1, 3, 2}, {0, 2, 4, 6}, {31, 2, 4, 6}};
+        for (int i = 0; i < books.length; i++) {
+            // judged or lived, it is told of the end
+            for (int lives = 0; lives <= 1; lives++) {
+                BrowArmy x = EDGE.army(ARMY, 7);
+                x.hours(3);
+                EDGE.is("book(" + lives + ")", Due.book(x, lives, books[i]), wrong[i]);
+                told(x, due[i]);
+                EDGE.now(x, 0, lives == 0 ? 3 : due[i][2]);
+                EDGE.now(x, 3, lives == 0 ? 0 : due[i][3]);
+            }
+        }
     }
 
     private static void toldOfTheLatestWithoutAFault() {

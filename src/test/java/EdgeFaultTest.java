@@ -13,6 +13,8 @@ public final class EdgeFaultTest {
         tokensAheadAreReadWhole();
         numbersNotAsTold();
         namesNotAsTold();
+        twoLiftsAgain();
+        clearOrRainAgain();
         oneMoreOfASort();
         EDGE.finish();
     }
@@ -218,6 +220,30 @@ public final class EdgeFaultTest {
         EDGE.bookFault(x, "c gives o;", 8, 3);
         EDGE.sentenceFault(x, "under a", 6, 3);
         EDGE.army("man a 0 0 0;order o left left;", 2);
+    }
+
+    private static void twoLiftsAgain() {
+        EDGE.of(5, "two lifts that another ORDER has (at the second)");
+        EDGE.armyFault("order a left both;order b left both;", 31, 3);
+        EDGE.armyFault("order a left both;order b both both;order c  left \n both", 52, 3);
+        EDGE.armyFault("order a left both;order b left both?", 31, 3);
+        // ahead of the second there may be another fault
+        EDGE.armyFault("order a left both;order a left both;", 24, 3);
+        EDGE.armyFault("order a left both;order b up both;", 26, 1);
+    }
+
+    private static void clearOrRainAgain() {
+        EDGE.of(5, "'clear', 'rain' told again (at the WORD)");
+        EDGE.armyFault("clear 2; clear", 9, 3);
+        EDGE.armyFault("rain 6;\nrain", 8, 3);
+        EDGE.armyFault("clear 2;rain 6;clear 0;", 15, 3);
+        EDGE.armyFault("rain 6;clear 2;rain x;", 15, 3);
+        EDGE.army("rain 6;clear 2;", 2);
+        // told in an army ahead of it is not told again
+        BrowArmy x = EDGE.army("clear 3;rain 7;", 2);
+        EDGE.is("army()", Due.army(x, "clear 4;rain 8;"), 2);
+        EDGE.is("army() with a fault", Due.army(x, "clear 5;rain 9;?"), -16);
+        EDGE.is("army()", Due.army(x, "clear 1;rain 1;"), 2);
     }
 
     private static void oneMoreOfASort() {

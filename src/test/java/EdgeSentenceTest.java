@@ -13,6 +13,7 @@ public final class EdgeSentenceTest {
         aNinthWithin();
         aTwentyFirstOne();
         andBindsMoreThanOr();
+        threeSigns();
         browWithSoot();
         heardNoughtIsNone();
         lostAsOften();
@@ -119,6 +120,25 @@ public final class EdgeSentenceTest {
         EDGE.sentenceFault(x, "brow<", 5, 1);
         EDGE.sentenceFault(x, "brow<a", 5, 1);
         EDGE.sentenceFault(x, "brow(3", 4, 1);
+    }
+
+    private static void threeSigns() {
+        BrowArmy x = sayer();
+        EDGE.of(39, "SIGN: < = >");
+        for (int number = 0; number <= 3; number++) {
+            EDGE.sentence(x, "number<" + number, 1, (1 << number) - 1);
+            EDGE.sentence(x, "number=" + number, 1, number < 3 ? 1 << number : 0);
+            EDGE.sentence(x, "number>" + number, 1, number < 3 ? 7 & ~((2 << number) - 1) : 0);
+        }
+        EDGE.of(39, "( 'brow' | 'heard' | 'lost' | 'number' ) SIGN NUMBER");
+        for (String what : new String[] {"brow", "heard", "lost", "number"}) {
+            EDGE.sentenceFault(x, what, what.length(), 1);
+            EDGE.sentenceFault(x, what + " 1", what.length() + 1, 1);
+            EDGE.sentenceFault(x, what + "!1", what.length(), 1);
+            EDGE.sentenceFault(x, what + "<", what.length() + 1, 1);
+            EDGE.sentenceFault(x, what + "<>1", what.length() + 1, 1);
+            EDGE.sentenceFault(x, what + "=1000", what.length() + 1, 1);
+        }
     }
 
     private static void browWithSoot() {

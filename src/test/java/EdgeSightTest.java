@@ -133,6 +133,17 @@ public final class EdgeSightTest {
         EDGE.is("reads(2)", x.reads(2), 0);
         EDGE.is("reads(3)", x.reads(3), 0);
         EDGE.is("reads(0) without men", new BrowArmy().reads(0), -1);
+        EDGE.of(18, "He READS whom he is UNDER, if he SEES him");
+        x.sleep(2);
+        EDGE.is("reads(1), he is asleep", x.reads(1), 0);
+        x.wake(2);
+        for (int n = 0; n < 18; n++) {
+            x.go(2, n < 9 ? 0 : 1);
+            EDGE.is("reads(1), near enough", x.reads(1), 4);
+        }
+        x.go(2, 1);
+        EDGE.is("reads(1), too far", x.reads(1), 0);
+        EDGE.is("sees(2), too far", x.sees(2), 0);
         for (int m : Edge.outside(0, 4)) {
             Twins.leaves(EDGE, "reads(" + m + ")", -1, y -> y.reads(m));
         }
